@@ -1112,9 +1112,16 @@ public final class DusterRounds {
                 end++;
             }
             token = WORD;
-            value = 0;
-            while (value < ANOTHER_WORD && !reads(nameOf(value))) {
-                value++;
+            // Compared here and not in a method of its own, as calls go eight deep at most.
+            for (value = 0; value < ANOTHER_WORD; value++) {
+                String name = nameOf(value);
+                int same = 0;
+                while (same < name.length() && start + same < end && bytes[start + same] == name.charAt(same)) {
+                    same++;
+                }
+                if (same == name.length() && start + same == end) {
+                    return;
+                }
             }
         }
 
@@ -1134,18 +1141,6 @@ public final class DusterRounds {
 
         private static boolean isDigit(int b) {
             return b >= '0' && b <= '9';
-        }
-
-        private boolean reads(String name) {
-            if (end - start != name.length()) {
-                return false;
-            }
-            for (int i = 0; i < name.length(); i++) {
-                if (bytes[start + i] != name.charAt(i)) {
-                    return false;
-                }
-            }
-            return true;
         }
 
         private static String nameOf(int word) {

@@ -790,6 +790,11 @@ public final class PromiseTest {
         fault(";", 0);
         fault("duster;;", 7);
         fault("dusters", 0);
+        fault("dusterz", 0);
+        fault("duste", 0);
+        fault("muster", 0);
+        fault("aduster", 0);
+        fault("duster zwool", 7);
         fault("dust", 0);
         fault("holds 1", 0);
         fault("7", 0);
