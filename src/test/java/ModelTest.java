@@ -14,7 +14,7 @@ import java.util.function.ToIntFunction;
  */
 public final class ModelTest {
     static final int RUNS = 300;
-    static final int CALLS = 400;
+    static final int CALLS = 370;
 
     static int wrong = 0;
     static long asked = 0;

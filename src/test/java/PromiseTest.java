@@ -31,8 +31,14 @@ public final class PromiseTest {
 
     static int tell(DusterRounds x, String text) {
         x.wipe();
-        for (int i = 0; i < text.length(); i++) {
-            x.feed(text.charAt(i), 1);
+        // By fours, so that an object stays within its 512 calls.
+        for (int i = 0; i < text.length(); i += 4) {
+            int n = Math.min(4, text.length() - i);
+            int bytes = 0;
+            for (int k = 0; k < n; k++) {
+                bytes = bytes << 8 | text.charAt(i + k);
+            }
+            x.feed(bytes, n);
         }
         return x.house();
     }
@@ -848,13 +854,33 @@ public final class PromiseTest {
         due("a ninth", tell(x, "silk"), -1);
         due("no finding", x.status(-1), 0);
         due("the others may be", tell(x, "falls 1; wash 7"), 2);
-        // As many items as can be.
+        fullTapes(x);
+        // Many items.
+        DusterRounds y = new DusterRounds();
         StringBuilder text = new StringBuilder("falls9");
         for (int i = 0; i < 16; i++) {
             text.append(";room1");
         }
         text.append(";falls 12345");
-        due("17 items, then a fault", tell(x, text.toString()), -1 - 109);
+        due("17 items, then a fault", tell(y, text.toString()), -1 - 109);
+    }
+
+    static void fullTapes(DusterRounds x) {
+        // A tape of 120 bytes, that ends in a word, in a number, in blanks, too early.
+        due("a word at the end", tell(x, " ".repeat(116) + "dust"), -1 - 116);
+        due("a name at the end", tell(x, "falls 2;" + " ".repeat(106) + "duster"), -1 - 114);
+        due("a number at the end", tell(x, " ".repeat(112) + "falls 13"), 1);
+        due("falls", x.now(1), 13);
+        due("blanks at the end", tell(x, "falls 14" + " ".repeat(112)), 1);
+        due("falls", x.now(1), 14);
+        due("blanks alone", tell(x, " ".repeat(120)), -1 - 120);
+        due("too early", tell(x, " ".repeat(119) + ";"), -1 - 119);
+        due("too early", tell(x, " ".repeat(112) + "wash 7 ;"), -1 - 120);
+        // What stood on the tape before is not read again.
+        due("shorter than the one before", tell(x, "falls 1"), 1);
+        due("falls", x.now(1), 1);
+        due("cut in a word", tell(x, "fall"), -1);
+        due("cut ahead of the number", tell(x, "falls "), -1 - 6);
     }
 
     static void sheets() {
