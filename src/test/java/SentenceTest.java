@@ -1066,6 +1066,8 @@ public final class SentenceTest {
         run("duster 0, set 0 1 1, grime 0 1 = 25");
         run("duster 0, set 0 1 1023, grime 0 1 = 75");
         run("duster 2, room 0 1 1, grime 0 1 = 61");
+        // From 90 on it leaves 2 of the 5, so that the one behind it has grime 25 and leaves its memory next day.
+        run(NO_DUST, "room 0 0 5, duster 0, duster 0, set 1 1 512, set 1 2 24, set 1 3 0, grime 0 1 = 0, grime 0 2 = 90");
         run("grime 0 1 = BEYOND");
         run("duster 0, grime 0 0 = BEYOND");
         run("duster 0, grime 0 41 = BEYOND");
